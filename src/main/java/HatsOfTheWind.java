@@ -873,7 +873,6 @@ public final class HatsOfTheWind {
 
     /** What hats of each kind hold, fly and are worth; each kind is told by what it is under. */
     private static final class Kinds {
-        private static final int HAT = 0;
         private static final int PINNED = 1;
         private static final int BOWLER = 2;
         private static final int STRAW = 3;

@@ -9,6 +9,7 @@ public final class HoursOnTest {
         caughtAndBack();
         lost();
         allWear();
+        behindNinetyNine();
         nothingChanges();
         DUE.end();
     }
@@ -141,6 +142,25 @@ public final class HoursOnTest {
         DUE.is("n -1", x.allWear(-1), -1);
         HatsOfTheWind nobody = new HatsOfTheWind();
         DUE.is("nobody is bare", nobody.allWear(99), 99);
+    }
+
+    /** Behind 99 hours is the last that counts: the winds of 11 blow behind 3, 27, .. 99, those of 12 behind 100. */
+    private static void behindNinetyNine() {
+        HatsOfTheWind x = Due.street("p045;h000;w114;");
+        DUE.is("taken behind 99", x.taken(0), 99);
+        DUE.is("lost behind 99", x.lost(0), 99);
+        HatsOfTheWind y = Due.street("p045;h000;w124;");
+        DUE.is("taken behind 100", y.taken(0), -4);
+        DUE.is("lost behind 100", y.lost(0), -4);
+        // The CAP goes 1 a day and so do they, towards one another.
+        HatsOfTheWind z = Due.street("p101;p001;h701;w113;");
+        DUE.is("caught behind 99", z.caught(0), 99);
+        DUE.is("back behind 99", z.back(0, 0), 99);
+        DUE.is("first behind 99", z.race(), 0);
+        HatsOfTheWind w = Due.street("p101;p001;h701;w123;");
+        DUE.is("caught behind 100", w.caught(0), -4);
+        DUE.is("back behind 100", w.back(0, 0), -4);
+        DUE.is("first behind 100", w.race(), -4);
     }
 
     private static void nothingChanges() {

@@ -122,6 +122,8 @@ public final class ShelvesTest {
         DUE.is("nothing ahead of a hat", x.copy(3, 0, 4, 0, 1), -11);
         DUE.is("a hat", x.copy(3, 0, 1, 0, 1), -12);
         DUE.is("a hat", x.copy(1, 0, 3, 0, 1), -12);
+        DUE.is("a hat, and bytes", x.copy(3, 0, 2, 0, 1), -12);
+        DUE.is("bytes, and a hat", x.copy(2, 0, 3, 0, 1), -12);
         DUE.is("another sort", x.copy(0, 0, 2, 0, 1), -12);
         DUE.is("another sort ahead of no place", x.copy(0, 0, 2, 0, -1), -12);
         DUE.is("n -1", x.copy(0, 0, 1, 0, -1), -13);

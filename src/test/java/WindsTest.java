@@ -91,6 +91,7 @@ public final class WindsTest {
         HatsOfTheWind calm = Due.street("p001;h000;p101;h001;");
         DUE.is("holding on costs nothing for 2 hours: the first pair", calm.two(0, 1, 2), 0);
         DUE.is("neither", calm.two(0, 1, 24), 0);
+        DUE.is("for one hour", calm.two(0, 1, 1), 0);
         HatsOfTheWind gale = Due.street("p001;h000;p101;h001;w094;w104;w114;");
         DUE.is("both", gale.two(0, 1, 3), 11);
         // Bare, the hat one place off: who holds on does not go, and gets none.
@@ -99,6 +100,9 @@ public final class WindsTest {
         // Bare where a hat lies: who holds on wears it at once, and keeps it in the wind behind.
         HatsOfTheWind there = Due.street("p001;h000;w095;t01;w114;w124;p201;h191;p051;");
         DUE.is("he holds on, and wears it", there.two(2, 1, 3), 10);
+        // Bare, the hat two places off, a wind behind: with pins he would keep it, but who holds on does not get it.
+        HatsOfTheWind off = Due.street("p001;h000;w095;t01;w124;p071;p201;h192;");
+        DUE.is("he goes, and loses it for a while", off.two(1, 2, 6), 0);
         // What he holds on to would be gone at 9 again, a day on: for 24 hours 8 less.
         HatsOfTheWind day = Due.street("p201;h000;p101;h001;l10;w084;");
         DUE.is("23 without, 24 less 8 with it", day.two(0, 1, 24), 0);
