@@ -487,15 +487,15 @@ public final class HatsOfTheWind {
             return refusal;
         }
         Shelf flight = shelves[d];
+        if (flight.size > 0 && !isWithin(flight.elements[0], 0, LOST_PLACE)) {
+            return 0;
+        }
         think(0);
-        for (int i = 0; i < flight.size; i++) {
-            int told = flight.elements[i];
-            if (i == 0 ? !isWithin(told, 0, LOST_PLACE) : told != mind.landing(hat, flight.elements[i - 1])) {
+        for (int i = 1; i < flight.size; i++) {
+            if (flight.elements[i] != mind.landing(hat, flight.elements[i - 1])) {
                 return i;
             }
-            if (i > 0) {
-                mind.passClock();
-            }
+            mind.passClock();
         }
         return NONE;
     }
