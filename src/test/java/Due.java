@@ -3,16 +3,33 @@ final class Due {
     private final String test;
     private int asked = 0;
     private int wrong = 0;
+    private String sentence = "";
+    private int askedAhead = 0;
 
     Due(String test) {
         this.test = test;
+    }
+
+    /** What is asked from here on is asked for these words of the document. */
+    void sentence(String words) {
+        endSentence();
+        sentence = " [" + words + "]";
+    }
+
+    /** A sentence for which nothing was asked has no test. */
+    private void endSentence() {
+        if (!sentence.isEmpty() && asked == askedAhead) {
+            wrong++;
+            System.out.println(test + ": nothing was asked for" + sentence);
+        }
+        askedAhead = asked;
     }
 
     void is(String call, long got, long want) {
         asked++;
         if (got != want) {
             wrong++;
-            System.out.println(test + ": " + call + " answered " + got + ", due is " + want);
+            System.out.println(test + ": " + call + " answered " + got + ", due is " + want + sentence);
         }
     }
 
@@ -34,6 +51,7 @@ final class Due {
     }
 
     void end() {
+        endSentence();
         System.out.println(test + ": " + asked + " asked, " + wrong + " wrong");
         if (wrong != 0 || asked == 0) {
             System.exit(1);
