@@ -321,6 +321,14 @@ public final class BoundsOfHoursOnTest {
         HatsOfTheWind y = Due.street("p005;h700;p001;h701;w093;");
         DUE.is("not hat 0, which 0 has then", y.wear(1, 1), 1);
         DUE.is("hat 0, which 0 has again", y.wear(0, 1), 0);
+        // With hat 0 on the head of 1, 0 runs from 12 to hat 1 and meets hat 0 at 6 on his way: 1 has it for 3 hours.
+        // With his own 1 is bare for one hour only.
+        HatsOfTheWind runs = Due.street("p122;h000;p004;h201;w126;");
+        DUE.is("his old one is loose for another one", runs.wear(1, 5), 1);
+        // 1 came at 20 and is at 10 now: there lies hat 0, and 0 has it at once, so that 1 has hat 1 again behind 3.
+        HatsOfTheWind where = Due.street("p055;p205;h601;h300;w103;");
+        where.moves(1, 10);
+        DUE.is("it lies where he is, not where he came", where.wear(1, 3), 1);
         // Hat 0, the old one, is loose at once and flies in the first hour, so he can not be there at its end.
         HatsOfTheWind z = Due.street("p001;h300;p201;h601;w091;");
         DUE.is("the STRAW holds 2: it stays on his head", z.wear(0, 1), 0);
@@ -392,6 +400,14 @@ public final class BoundsOfHoursOnTest {
         DUE.is("none is lost behind 0", x.shut(0), -4);
         x.shelters(20);
         DUE.is("lee already", x.shut(1), -4);
+        // At 10 hat 0 is taken from 4 to 10 and at 14 past 20. Without the lee at 0 both hats would be taken at 10 and
+        // caught again where the wind of 14 does not get them past 20; but told LEE now, 0 is LEE as it was.
+        HatsOfTheWind still = Due.street("p041;h000;p005;h001;l00;l02;w122;t01;w149;w106;");
+        DUE.is("one is lost", still.then(6, 1), 1);
+        DUE.is("4, where it is not taken, and not 0", still.shut(6), 4);
+        still.shelters(0);
+        DUE.is("without the lee at 0 none is lost", still.then(6, 1), 0);
+        DUE.is("so no place makes it fewer", still.shut(6), -4);
         HatsOfTheWind zero = Due.street("p001;h300;w099;w109;");
         DUE.is("0 and 18: the least", zero.shut(2), 0);
         zero.hours(1);

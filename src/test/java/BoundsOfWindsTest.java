@@ -213,6 +213,14 @@ public final class BoundsOfWindsTest {
         DUE.is("3 hours: 1 less, one more: alike, the first", x.two(0, 1, 3), 0);
         DUE.is("5 hours: still 1 less", x.two(0, 1, 5), 0);
         DUE.is("6 hours: 2 less", x.two(0, 1, 6), 0);
+        // Behind 3 hours 0 has the hat of 1; one hour later holding on would be worth more than it costs.
+        HatsOfTheWind third = Due.street("p185;p133;h001;w117;");
+        DUE.is("taken behind 3", third.taken(0), 3);
+        DUE.is("0 has it then", third.hatThen(0, 3, 1), 0);
+        DUE.is("3 hours: for 1 it is 2 and 3 less 1", third.two(0, 1, 3), 0);
+        DUE.is("the other way round", third.two(1, 0, 3), 0);
+        DUE.is("4 hours: 2 and 4 less 1", third.two(0, 1, 4), 1);
+        DUE.is("the other way round", third.two(1, 0, 4), 10);
         // Bare for two hours: 2 less comes with 6.
         HatsOfTheWind y = Due.street("p103;h200;p001;h191;w095;");
         DUE.is("bare behind 1", y.then(1, 0), 1);
@@ -525,13 +533,13 @@ public final class BoundsOfWindsTest {
         DUE.is("the hour is as it was", lost.count(2), 10);
     }
 
-    /** The winds of the first Thursday, as the document draws them, told by long arithmetic. */
+    /** The winds of three Thursdays, one behind the other, as the document draws them, told by long arithmetic. */
     private static int[] drawn(int z) {
-        int[] winds = new int[24];
+        int[] winds = new int[72];
         long seed = z;
-        for (int hour = 0; hour < 24; hour++) {
+        for (int k = 0; k < 72; k++) {
             seed = (int) (seed * 1103515245L + 12345L);
-            winds[hour] = (int) ((seed & 0x7fffffffL) / 65536 % 10);
+            winds[k] = (int) ((seed & 0x7fffffffL) / 65536 % 10);
         }
         return winds;
     }
@@ -543,8 +551,8 @@ public final class BoundsOfWindsTest {
             int[] winds = drawn(z);
             // By its pins the NEST at 20 is lost just if some hour has more wind than that.
             int most = 0;
-            for (int v : winds) {
-                most = Math.max(most, v);
+            for (int hour = 0; hour < 24; hour++) {
+                most = Math.max(most, winds[hour]);
             }
             HatsOfTheWind x = Due.street("p201;h600;");
             for (int pins = 0; pins < 10; pins++) {
@@ -555,20 +563,28 @@ public final class BoundsOfWindsTest {
         }
     }
 
-    /** Each hour by itself: a Thursday is as if these winds had been told and 24 hours gone by. */
+    /** Thursdays are, each from now, as if their winds had been told and 24 hours gone by. */
     private static void sameAsTold(int z, int[] winds) {
         String[] streets = {
             "p001;h000;p052;h111;p103;h252;p154;h363;", "p005;h430;p064;h541;p123;h752;p181;h663;",
-            "p001;h720;p003;h761;p101;", "t14;p001;h150;p045;h171;l09;l13;"
+            "p001;h720;p003;h761;p101;", "t14;p001;h150;p045;h171;l09;l13;", "p084;h000;l01;l12;", "p035;h500;l11;",
+            "p042;h340;l18;", "p121;h000;l20;", "p201;h780;", "p045;h400;p135;p195;l11;l06;", "p065;h050;l15;w103;",
+            "p064;h700;p052;l18;"
         };
         for (String text : streets) {
-            HatsOfTheWind thursday = Due.street(text);
-            HatsOfTheWind told = Due.street(text);
-            for (int hour = 0; hour < 24; hour++) {
-                told.blows(hour, winds[hour]);
+            HatsOfTheWind thursdays = Due.street(text);
+            int lost = 0;
+            int bare = 0;
+            for (int n = 1; n <= 3; n++) {
+                HatsOfTheWind told = Due.street(text);
+                for (int hour = 0; hour < 24; hour++) {
+                    told.blows(hour, winds[24 * (n - 1) + hour]);
+                }
+                lost += told.then(24, 1);
+                bare |= told.then(24, 0);
+                DUE.is("LOST, seed " + z + ", " + n + " Thursdays, " + text, thursdays.thursdays(n, z, 0), lost);
+                DUE.is("BARE, seed " + z + ", " + n + " Thursdays, " + text, thursdays.thursdays(n, z, 1), bare);
             }
-            DUE.is("LOST, seed " + z, thursday.thursdays(1, z, 0), told.then(24, 1));
-            DUE.is("BARE, seed " + z, thursday.thursdays(1, z, 1), told.then(24, 0));
         }
     }
 }
