@@ -466,5 +466,20 @@ public final class BoundsOfHoursOnTest {
         DUE.is("worn now, loose then", falls.swaps(1), 0);
         DUE.is("worn now, his again then", falls.swaps(4), 0);
         DUE.is("worn now, lost then", Due.street("p201;h000;w094;").swaps(1), 0);
+        HatsOfTheWind eight = Due.street("p201;w099;p001;p001;");
+        eight.keep(0, 1, 3, 0);
+        for (int hat = 0; hat < 6; hat++) {
+            eight.wears(0, 0);
+            eight.hours(24);
+        }
+        eight.moves(1, 4);
+        eight.moves(2, 3);
+        eight.blows(9, 3);
+        eight.wears(0, 1);
+        eight.wears(0, 2);
+        eight.moves(0, 0);
+        DUE.is("eight hats", eight.count(1), 8);
+        DUE.is("6 and 7 are taken, nobody is there so soon", eight.swaps(1), 0);
+        DUE.is("now", eight.swaps(0), 0);
     }
 }
